@@ -590,9 +590,10 @@ public final class CurveMeets {
         return result;
     }
 
+    /** Of a number from 1 on, below P; 0 of another one. */
     private static int inverse(int number, int p) {
-        for (int k = 1; k < p; k++) {
-            if (mod(number * k, p) == 1) {
+        for (int k = 1; k < p && p > 1; k++) {
+            if (number * k % p == 1) {
                 return k;
             }
         }
@@ -648,9 +649,8 @@ public final class CurveMeets {
 
         void setTo(int number) {
             for (int k = 0; k < cells.length; k++) {
-                cells[k] = 0;
+                cells[k] = k == 0 ? number : 0;
             }
-            put(0, 0, number);
         }
 
         void copy(Poly from) {
@@ -683,8 +683,8 @@ public final class CurveMeets {
             setTo(0);
             for (int i = 0; i <= MOST_DEGREE; i++) {
                 for (int j = 0; j <= MOST_DEGREE - i; j++) {
-                    if (a.at(i, j) != 0) {
-                        addShifted(b, i, j, a.at(i, j), p);
+                    if (a.cells[i * SIDE + j] != 0) {
+                        addShifted(b, i, j, a.cells[i * SIDE + j], p);
                     }
                 }
             }
