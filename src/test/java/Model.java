@@ -725,6 +725,8 @@ final class Model {
     }
 
     private List<Integer> taken = new ArrayList<>();
+    private List<Object> takenOf = List.of();
+    private int takenTimes = 0;
 
     private static int pure(Sum f, boolean greatest) {
         int found = -1;
@@ -746,6 +748,16 @@ final class Model {
         if (!is(a) || !is(b) || !isPoint(point)) {
             return NONE;
         }
+        // The rules of one meeting are asked one by one: they are reckoned once.
+        List<Object> asked = List.of(p, all.get(a), all.get(b), point);
+        if (!asked.equals(takenOf)) {
+            takenTimes = byRules(a, b, point);
+            takenOf = asked;
+        }
+        return takenTimes;
+    }
+
+    private int byRules(int a, int b, int point) {
         if (valueOf(common(all.get(a), all.get(b), p), point) == 0) {
             return ENDLESS;
         }

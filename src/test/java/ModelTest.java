@@ -189,6 +189,38 @@ public final class ModelTest {
         }
     }
 
+    /** A curve through (0, 0) with many terms, of a higher order there or touching y = 0 closely. */
+    private static String dense(int p) {
+        StringBuilder text = new StringBuilder();
+        int shape = below(4);
+        for (int i = 0; i <= 4; i++) {
+            for (int j = 0; j <= 4 - i; j++) {
+                int weight = shape < 3 ? i + j : (i + 2 * j) / 3;
+                if (weight > (shape < 3 ? shape : 0) && below(shape == 0 ? 3 : 2) == 0) {
+                    text.append(text.length() > 0 ? "+" : "").append(1 + below(p - 1));
+                    text.append("*x^").append(i).append("*y^").append(j);
+                }
+            }
+        }
+        return text.length() > 0 ? text.toString() : "y-x^4";
+    }
+
+    /** So many RULES that TERMS above 16 come up, and must be left out. */
+    private static void deep(int runs) {
+        for (int run = 0; run < runs; run++) {
+            int p = PRIMES[below(4)];
+            Pair pair = new Pair();
+            pair.text("field " + p + ";curve a=" + dense(p) + ";curve b=" + dense(p) + ";");
+            pair.twoAt(0, 1, 0);
+            pair.twoAt(1, 0, 0);
+            pair.size(0, 1, 0);
+            int met = pair.model.meet(0, 1, below(3), 0);
+            if (met > 0) {
+                pair.twoAt(0, 1, met);
+            }
+        }
+    }
+
     /** More ACTS than can be undone, and then more undos. */
     private static void undos(int runs) {
         for (int run = 0; run < runs; run++) {
@@ -212,6 +244,7 @@ public final class ModelTest {
         seed = args.length > 1 ? Long.parseLong(args[1]) : 1;
         texts(400 * scale);
         undos(40 * scale);
+        deep(500 * scale);
         runs(60 * scale, 5);
         runs(6 * scale, 11);
         System.out.println(Pair.asked + " answers, " + Pair.wrong + " not as the model's");

@@ -161,7 +161,7 @@ final class Pair {
         for (int kind = -1; kind <= 4; kind++) {
             same("rules " + name + " " + kind, program.rules(a, b, q, kind), model.rules(a, b, q, kind));
         }
-        for (int k = -2; k <= 40; k++) {
+        for (int k = -2; k <= 2000; k++) {
             int due = same("rule " + name + " " + k, program.rule(a, b, q, k), model.rule(a, b, q, k));
             if (due == -1 && k >= 0) {
                 break;
