@@ -774,7 +774,7 @@ public final class CurveMeets {
             if (find(curve) == null) {
                 return;
             }
-            for (int k = curve; k < count - 1; k++) {
+            for (int k = curve; k < count - 1 && k < MOST_CURVES - 1; k++) {
                 polys[k].copy(polys[k + 1]);
                 System.arraycopy(letters, (k + 1) * MOST_LETTERS, letters, k * MOST_LETTERS,
                     MOST_LETTERS);
@@ -796,8 +796,8 @@ public final class CurveMeets {
         }
 
         void keep(Shelf shelf) {
-            shelves[next].copy(shelf);
-            next = next + 1 < MOST_ACTS ? next + 1 : 0;
+            shelves[around(next)].copy(shelf);
+            next = around(next + 1);
             count = Math.min(count + 1, MOST_ACTS);
         }
 
@@ -805,10 +805,15 @@ public final class CurveMeets {
             if (count == 0) {
                 return false;
             }
-            next = next > 0 ? next - 1 : MOST_ACTS - 1;
+            next = around(next - 1);
             shelf.copy(shelves[next]);
             count--;
             return true;
+        }
+
+        /** Behind the last of the shelves comes the first one again. */
+        private static int around(int place) {
+            return Math.floorMod(place, MOST_ACTS);
         }
 
         void forget() {
@@ -938,7 +943,7 @@ public final class CurveMeets {
 
         private boolean isNameTaken() {
             int own = draft.count * MOST_LETTERS;
-            for (int curve = 0; curve < draft.count; curve++) {
+            for (int curve = 0; curve < draft.count && draft.count < MOST_CURVES; curve++) {
                 int alike = 0;
                 for (int i = 0; i < MOST_LETTERS; i++) {
                     if (draft.letters[own + i] == draft.letters[curve * MOST_LETTERS + i]) {

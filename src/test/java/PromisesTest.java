@@ -1,80 +1,5 @@
 /** Each promise of the document by answers reckoned by hand: ordinary ones, edges, wrong inputs. */
-public final class PromisesTest {
-    private static int wrong = 0;
-    private static int asked = 0;
-
-    private static void due(String call, long got, long want) {
-        asked++;
-        if (got != want) {
-            wrong++;
-            System.out.println(call + " answered " + got + ", due is " + want);
-        }
-    }
-
-    private static void due(String call, boolean got, boolean want) {
-        due(call, got ? 1 : 0, want ? 1 : 0);
-    }
-
-    /** The answers of a call that is asked with several arguments, as one text. */
-    private static void alike(String call, String got, String want) {
-        asked++;
-        if (!got.equals(want)) {
-            wrong++;
-            System.out.println(call + " answered " + got + ", due is " + want);
-        }
-    }
-
-    private static void tape(CurveMeets x, String text) {
-        int length = 0;
-        for (int at = 0; at < text.length(); at += 20) {
-            int[] five = new int[5];
-            for (int k = 0; k < 20; k++) {
-                int sign = at + k < text.length() ? text.charAt(at + k) : '?';
-                five[k / 4] = five[k / 4] << 8 | sign;
-            }
-            length = x.feed(five[0], five[1], five[2], five[3], five[4]);
-        }
-        due("feed of '" + text + "'", length, (text.length() + 19) / 20 * 20);
-        due("end of '" + text + "'", x.end(text.length()), true);
-    }
-
-    private static int read(CurveMeets x, String text) {
-        tape(x, text);
-        return x.curves();
-    }
-
-    private static CurveMeets with(String text) {
-        CurveMeets x = new CurveMeets();
-        int count = text.split("curve").length - 1;
-        due("curves of '" + text + "'", read(x, text), count);
-        return x;
-    }
-
-    private static void faulty(String text, int kind, int place) {
-        CurveMeets x = new CurveMeets();
-        due("curves of '" + text + "'", read(x, text), -1);
-        due("fault(0) of '" + text + "'", x.fault(0), kind);
-        due("fault(1) of '" + text + "'", x.fault(1), place);
-        due("status(1) of '" + text + "'", x.status(1), 1);
-    }
-
-    private static String repeat(String text, int often) {
-        return new String(new char[often]).replace("\0", text);
-    }
-
-    private static String terms(CurveMeets x, int curve) {
-        StringBuilder text = new StringBuilder();
-        for (int d = 4; d >= 0; d--) {
-            for (int i = d; i >= 0; i--) {
-                int number = x.term(curve, i, d - i);
-                if (number != 0) {
-                    text.append(number).append("x").append(i).append("y").append(d - i).append(" ");
-                }
-            }
-        }
-        return text.toString().trim();
-    }
-
+public final class PromisesTest extends Answers {
     private static void promise1() {
         CurveMeets x = new CurveMeets();
         due("new: P", x.has(0), 7);
@@ -905,9 +830,6 @@ public final class PromisesTest {
         promise33();
         promise34();
         promise35();
-        System.out.println(asked + " answers, " + wrong + " not as due");
-        if (wrong != 0) {
-            System.exit(1);
-        }
+        close();
     }
 }
