@@ -15,6 +15,10 @@ public final class ActEdgesTest extends Answers {
         CurveMeets none = new CurveMeets();
         due("of none", still(none), true);
         due("an ACT all the same", none.has(3), 1);
+        CurveMeets four = with("curve a=x^4+3*y^4+x^2*y^2;");
+        due("x to x - 1, y to y + x", four.move(1, 0, -1, 1, 1, 0), true);
+        // (x - 1)^4 + 3 (y + x)^4 + (x - 1)^2 (y + x)^2, modulo 7.
+        alike("all TERMS of four", all(four), "field 7; a=5x4y0 5x2y2 5x1y3 3x0y4 1x3y0 3x2y1 5x1y2 2x1y1 1x0y2 3x1y0 1x0y0");
     }
 
     private static void numbersOfMovesWrapAround() {
@@ -66,6 +70,10 @@ public final class ActEdgesTest extends Answers {
             // x and 1, y less 1: (p less 1, 0) comes to (0, p less 1).
             due("around", x.moved(p - 1, 1, 0, 1, 0, 1, -1), p * p - p);
             due("x by y", x.moved(p - 1, 0, 1, 0, 1, 0, 0), p * p - p);
+            // (1, p less 1) comes to (1, 0) as 1, 1 less 1; (1, 0) to (1, 0) as 1 and 0.
+            due("aslant", x.moved(p, 1, 0, 0, 1, 1, 0), p + p - 1);
+            due("aslant the other way", x.moved(p, 1, 1, 0, 0, 1, 0), p);
+            due("aslant at infinity", x.moved(p * p, 1, 0, 0, 1, 1, 0), p * p + p - 1);
             due("the last by the first at infinity", x.moved(last, 0, 1, 0, 1, 0, 0), p * p);
             due("and back", x.moved(p * p, 0, 1, 0, 1, 0, 0), last);
         }
@@ -206,6 +214,10 @@ public final class ActEdgesTest extends Answers {
         makes(with(text), 3, 0, 4, 0, "1x1y0");
         makes(with(text), 1, 1, 4, 0, "1x1y0");
         makes(with(text), 4, 5 + 3, 4, 0, "1x1y0 4x0y1 2x0y0");
+        // 2 y + x + z at 1 : 2 : 0: 2 u and v, so that the line is its own.
+        makes(with("field 5;curve a=2*y+x+1;"), 0, 25 + 2, 4, 0, "1x1y0 2x0y1 1x0y0");
+        // (y - 2 x - z)(y - 3 x) - z z at 1 : 2 : 0: (u - v)(u - 1) - v v.
+        makes(with("curve a=(y-2*x-1)*(y-3*x)-1;"), 0, 49 + 2, 4, 0, "1x1y0 3x0y1 4x0y0");
         refuses(with(text), 1, 0, 4, 0);
         refuses(with(text), 2, 6, 4, 0);
         refuses(with(text), 2, 5, 4, 0);
@@ -248,6 +260,32 @@ public final class ActEdgesTest extends Answers {
         for (int by : new int[] {-1, 2, 3, GREATEST, LEAST}) {
             refuses(with(text), 0, by, 5, 0);
         }
+    }
+
+    /** What was MADE ahead of it has no part in one. */
+    private static void madeOneByOne() {
+        CurveMeets x = with("curve a=x^2*y+3;curve b=x+y;");
+        due("a derivative", x.make(0, 0, 5, 0), 2);
+        due("another", x.make(0, 1, 5, 0), 3);
+        due("a line", x.make(0, 8, 3, 0), 4);
+        due("a product", x.make(1, 4, 0, 0), 5);
+        alike("each by itself", all(x),
+            "field 7; a=1x2y1 3x0y0; b=1x1y0 1x0y1; =2x1y1; =1x2y0; =1x1y0 6x0y1; =1x2y0 6x0y2");
+        due("drop", x.drop(5), 2);
+        for (int how = 0; how < 3; how++) {
+            due("with no first, " + how, x.make(9, 1, how, 1), NONE);
+            due("with no second, " + how, x.make(1, 9, how, 1), NONE);
+        }
+        due("a line of like POINTS", x.make(8, 8, 3, 0), NONE);
+        due("a line of no POINT", x.make(8, 57, 3, 0), NONE);
+        due("a line at infinity", x.make(49, 50, 3, 0), NONE);
+        due("a tangent of ORDER 0", x.make(0, 0, 4, 0), NONE);
+        due("a derivative of none", x.make(9, 0, 5, 0), NONE);
+        due("a derivative by nothing", x.make(0, 2, 5, 0), NONE);
+        due("a derivative that is 1", x.make(1, 0, 5, 0), NONE);
+        due("a product of 5", x.make(0, 2, 0, 0), NONE);
+        due("no such how", x.make(0, 1, 6, 0), NONE);
+        due("five stay", x.has(1), 5);
     }
 
     private static void noNames() {
@@ -305,7 +343,8 @@ public final class ActEdgesTest extends Answers {
         due("ACTS", x.has(3), 4);
         CurveMeets six = with(FIVE + "curve f=x^2;");
         due("the first of six", six.drop(0), 1);
-        due("the sixth is the fifth", six.degree(4), 2);
+        alike("the sixth is the fifth", all(six),
+            "field 7; b=1x0y1; c=1x1y0 1x0y1; d=1x1y0 6x0y1; e=1x1y1; f=1x2y0");
         due("there is no sixth", six.degree(5), NONE);
     }
 
@@ -372,7 +411,6 @@ public final class ActEdgesTest extends Answers {
 
     private static void undoneWholly() {
         CurveMeets x = with("curve abc=x^2+2;curve f=y^4;");
-        String told = all(x);
         due("move", x.move(2, 1, 3, 1, 1, 5), true);
         String moved = all(x);
         due("drop", x.drop(0), 2);
@@ -387,10 +425,10 @@ public final class ActEdgesTest extends Answers {
         due("undo the first drop", x.undo(), true);
         alike("as moved", all(x), moved);
         due("undo the MOVE", x.undo(), true);
-        alike("as told", all(x), told);
+        alike("as told", all(x), "field 7; abc=1x2y0 2x0y0; f=1x0y4");
         due("an ACT again", x.drop(1), 4);
         due("undo it", x.undo(), true);
-        alike("as told", all(x), told);
+        alike("as told", all(x), "field 7; abc=1x2y0 2x0y0; f=1x0y4");
     }
 
     private static void undoOfNone() {
@@ -523,6 +561,7 @@ public final class ActEdgesTest extends Answers {
         sentence("III", "the first of its TERMS has 1, x ahead of y", ActEdgesTest::firstTermOfLines);
         sentence("III", "(each TERM i, or j, times, with one x or y less; DEGREE 1 at least)",
             ActEdgesTest::derivatives);
+        sentence("III", "MADE are CURVES more", ActEdgesTest::madeOneByOne);
         sentence("III", "Their NAMES are none.", ActEdgesTest::noNames);
         sentence("III", "a CURVE that goes (those behind it are one less)", ActEdgesTest::dropped);
         sentence("III", "The last 20 can be undone.", ActEdgesTest::lastTwenty);

@@ -97,10 +97,18 @@ public final class CurveEdgesTest extends Answers {
         items("four times 0", k -> x.tangent(2, 0, k, 1), 4);
         items("the least first", k -> x.tangent(3, 0, k, 0), 2, 6, 7);
         items("as often", k -> x.tangent(3, 0, k, 1), 2, 1, 1);
-        due("all together", x.tangent(3, 0, NONE, 1), 4);
         due("TERMS above the lowest don't count", x.tangent(4, 0, NONE, 1), 3);
         due("less often than ORDER", x.tangent(5, 0, NONE, 1), 2);
-        due("how many", x.tangent(5, 0, NONE, 0), 1);
+    }
+
+    private static void waysTogether() {
+        CurveMeets x = with("curve a=(y-2*x)^2*(y+x)*x;curve b=(x^2+y^2)*y^2;curve c=y-x^2;curve d=x*y*(x-y)*(x+y);");
+        int[] ways = {3, 1, 1, 4};
+        int[] together = {4, 2, 1, 4};
+        for (int k = 0; k < 4; k++) {
+            due("how many", x.tangent(k, 0, NONE, 0), ways[k]);
+            due("all together", x.tangent(k, 0, NONE, 1), together[k]);
+        }
     }
 
     private static void waysWithout() {
@@ -130,6 +138,7 @@ public final class CurveEdgesTest extends Answers {
         due("4", x.bend(2, 0), 4);
         due("4 by P", x.bend(3, 0), 4);
         due("3 aslant", x.bend(4, 0), 3);
+        due("3 by WAY 2", with("curve a=(y-2*x)*(1+x)+x^3;").bend(0, 0), 3);
         due("2 at (1, 1)", x.bend(1, 8), 2);
         due("2 far", x.bend(0, 56), 2);
         due("2 far, by 0", with("curve a=x-y^2;").bend(0, 49), 2);
@@ -319,6 +328,8 @@ public final class CurveEdgesTest extends Answers {
         list("ORDER 1 is too little", k -> x.singular(1, k));
         list("near and far", k -> x.singular(2, k), 6 + 1, 6 + 2, 42, 43, 49, 56);
         list("far alone", k -> x.singular(3, k), 56);
+        list("ORDER 3", k -> with("curve a=y^3-x^4;").singular(0, k), 0);
+        list("ORDER 4", k -> with("curve a=x*y*(x-y)*(x+y);").singular(0, k), 0);
         list("no POINT at all", k -> with(NOWHERE).singular(0, k));
         due("a line twice", with("field 31;curve a=(x-y)^2;").singular(0, NONE), 32);
         noSuchCurve("singular", 4, c -> x.singular(c, 0), NONE);
@@ -359,6 +370,7 @@ public final class CurveEdgesTest extends Answers {
             CurveEdgesTest::localInBounds);
         sentence("Promise 14", "The k-th POINT ON a CURVE with an ORDER of 2 or more (k NONE: how many)",
             CurveEdgesTest::singularOnes);
+        sentence("Promise 15", "k NONE: how many (what 0), all together as often (1).", CurveEdgesTest::waysTogether);
         sentence("Promise 15", "NONE when the POINT is not ON it, there is none such, or for others.",
             CurveEdgesTest::waysWithout);
         sentence("Promise 16", "-2 without bound", CurveEdgesTest::bendsWithoutBound);

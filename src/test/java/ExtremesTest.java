@@ -23,10 +23,7 @@ public final class ExtremesTest {
         String text = TEXTS[below(TEXTS.length)];
         x.end(0);
         for (int at = 0; at < text.length(); at += 20) {
-            int[] five = new int[5];
-            for (int k = 0; k < 20; k++) {
-                five[k / 4] = five[k / 4] << 8 | (at + k < text.length() ? text.charAt(at + k) : 32);
-            }
+            int[] five = Answers.five(text, at, ' ');
             x.feed(five[0], five[1], five[2], five[3], five[4]);
         }
         return x.curves();

@@ -144,8 +144,9 @@ public final class MeetEdgesTest extends Answers {
     }
 
     private static void ruleSwap() {
-        CurveMeets x = with("curve a=x;curve b=y;curve c=x^2+y;");
+        CurveMeets x = with("curve a=x;curve b=y;curve c=x^2+y;curve d=x+y;");
         alike("G has none", rules(x, 0, 1, 0), "210");
+        alike("F's is like G's", rules(x, 3, 0, 0), "3210");
         // u u + v, u: SWAP; a CUT leaves v; SWAP; SPLIT by 1; END.
         alike("F's is above G's", rules(x, 2, 0, 0), "23210");
         alike("F's is below G's", rules(x, 0, 2, 0), "3210");
@@ -325,26 +326,43 @@ public final class MeetEdgesTest extends Answers {
         noSuchTwo("parts", 2, (a, b) -> x.parts(a, b, 0));
     }
 
-    private static void totals(String text, int... want) {
-        CurveMeets x = with(text);
-        for (int what = 0; what < 5; what++) {
-            due("total " + what + " of " + text, x.total(0, 1, what), want[what]);
-            if (what < 3) {
-                due("total " + what + " the other way", x.total(1, 0, what), want[what]);
-            }
+    private static final String[] PAIRS = {
+        "curve a=x;curve b=y;",
+        "curve a=x;curve b=x-1;",
+        "curve a=y;curve b=y-1;",
+        "curve a=y*(x-6);curve b=(y-1)*(y-6);",
+        "curve a=y-x^4;curve b=y-x^4-1;",
+        // y = - x^4, so x^16 + x = 0: x = 0, or x^3 = -1, that is 3, 5, 6.
+        "curve a=x^4+y;curve b=y^4+x;",
+        "curve a=x^4;curve b=y^4;",
+        "curve a=y-x^2;curve b=x-1;",
+        // No x by itself is 3 modulo 7: they meet near, but at no POINT.
+        "curve a=x^2-3;curve b=y;"};
+
+    /** One total of each pair, either way. */
+    private static void totals(int what, int... want) {
+        for (int k = 0; k < PAIRS.length; k++) {
+            CurveMeets x = with(PAIRS[k]);
+            due("total " + what + " of " + PAIRS[k], x.total(0, 1, what), want[k]);
+            due("the other way", x.total(1, 0, what), want[k]);
         }
     }
 
-    private static void nearAndFar() {
-        totals("curve a=x;curve b=y;", 1, 1, 0, 1, 0);
-        totals("curve a=x;curve b=x-1;", 1, 0, 1, 0, 1);
-        totals("curve a=y-x^4;curve b=y-x^4-1;", 16, 0, 16, 0, 16);
-        // y = - x^4, so x^16 + x = 0: x = 0, or x^3 = -1, that is 3, 5, 6.
-        totals("curve a=x^4+y;curve b=y^4+x;", 16, 16, 0, 4, 0);
-        totals("curve a=x^4;curve b=y^4;", 16, 16, 0, 16, 0);
-        totals("curve a=y-x^2;curve b=x-1;", 2, 1, 1, 1, 1);
-        // No x by itself is 3 modulo 7: they meet near, but at no POINT.
-        totals("curve a=x^2-3;curve b=y;", 2, 2, 0, 0, 0);
+    private static void productsOfDegrees() {
+        totals(0, 1, 1, 1, 4, 16, 16, 16, 2, 2);
+    }
+
+    private static void near() {
+        totals(1, 1, 0, 0, 2, 0, 16, 16, 1, 2);
+    }
+
+    private static void far() {
+        totals(2, 0, 1, 1, 2, 16, 0, 0, 1, 0);
+    }
+
+    private static void timesNearAndFar() {
+        totals(3, 1, 0, 0, 2, 0, 4, 16, 1, 0);
+        totals(4, 0, 1, 1, 2, 16, 0, 0, 1, 0);
     }
 
     private static void totalOfShared() {
@@ -451,7 +469,9 @@ public final class MeetEdgesTest extends Answers {
         sentence("II", "by how much all POLYNOMIALS in u, v below 17 (i and j together) are more",
             MeetEdgesTest::sizeBelowSeventeen);
         sentence("II", "PARTS of d (0 .. 24)", MeetEdgesTest::partsByDegree);
-        sentence("II", "FAR: the product of both DEGREES less NEAR.", MeetEdgesTest::nearAndFar);
+        sentence("II", "NEAR: by how much those that are made by FORMS of DEGREE 8 times z to the 16 and by both CURVES "
+            + "are more than those made by both CURVES alone (of DEGREE 24).", MeetEdgesTest::near);
+        sentence("II", "FAR: the product of both DEGREES less NEAR.", MeetEdgesTest::far);
     }
 
     private static void sentencesOnTimes() {
@@ -478,6 +498,10 @@ public final class MeetEdgesTest extends Answers {
         sentence("Promise 25", "-2 if one is without bound", MeetEdgesTest::meetWithoutBound);
         sentence("Promise 25", "NONE when there is none such, or for others.", MeetEdgesTest::meetOfNone);
         sentence("Promise 26", "NONE when there is none such, or d can't be.", MeetEdgesTest::partsOfNone);
+        sentence("Promise 27", "What 0: the product of both DEGREES, 1 NEAR, 2 FAR",
+            MeetEdgesTest::productsOfDegrees);
+        sentence("Promise 27", "3 TIMES together of POINTS ON both that are not at infinity, 4 of those at infinity.",
+            MeetEdgesTest::timesNearAndFar);
         sentence("Promise 27", "NONE when both have a COMMON PART of DEGREE 1 or more", MeetEdgesTest::totalOfShared);
         sentence("Promise 27", "when there is none such, or for others.", MeetEdgesTest::totalOfNone);
         sentence("Promise 28", "How many of CURVES meet at a POINT (are ON it; what 0); TIMES of all couples of unlike "

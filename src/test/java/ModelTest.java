@@ -125,6 +125,7 @@ public final class ModelTest {
         pair.at(a, below(points));
         int met = pair.model.point(a, below(4));
         pair.at(a, Math.max(met, 0));
+        pair.at(a, p * p + below(p + 1));
         pair.two(a, b);
         pair.dimensions(a, b, below(27) - 1);
         pair.twoAt(a, b, below(points));
@@ -159,7 +160,9 @@ public final class ModelTest {
                 break;
             case 2:
                 int curve = below(5);
-                pair.make(curve, Math.max(pair.model.point(curve, below(5)), 0), 4, 0);
+                // The last POINTS of a CURVE are those at infinity, if it has any.
+                int k = below(2) == 0 ? below(5) : pair.model.point(curve, Model.NONE) - 1 - below(2);
+                pair.make(curve, Math.max(pair.model.point(curve, k), 0), 4, 0);
                 break;
             case 3:
                 pair.drop(below(6) - 1);

@@ -30,11 +30,7 @@ final class Pair {
     /** The text on the tape, and curves(). */
     int text(String text) {
         for (int at = 0; at < text.length(); at += 20) {
-            int[] five = new int[5];
-            for (int k = 0; k < 20; k++) {
-                int sign = at + k < text.length() ? text.charAt(at + k) : 32;
-                five[k / 4] = five[k / 4] << 8 | sign;
-            }
+            int[] five = Answers.five(text, at, ' ');
             same("feed", program.feed(five[0], five[1], five[2], five[3], five[4]),
                 model.feed(five[0], five[1], five[2], five[3], five[4]));
         }

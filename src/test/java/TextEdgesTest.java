@@ -198,6 +198,10 @@ public final class TextEdgesTest extends Answers {
                     due("(x+y+1)^4 at " + i + " " + j, x.term(4, i, j), choose(4, i) * choose(4 - i, j) % p);
                 }
             }
+            int rest = 2147483645 % p;
+            CurveMeets y = with("field " + p + ";curve a=2147483645^3*x+y;curve b=2147483645*2147483645*x+y;");
+            due("a power of a great one", y.term(0, 1, 0), rest * rest * rest % p);
+            due("a product of great ones", y.term(1, 1, 0), rest * rest % p);
         }
     }
 
@@ -477,9 +481,9 @@ public final class TextEdgesTest extends Answers {
         due("forty", x.feed(0x63757276, 0x65206768, 0x3d792d78, 0x3b202020, 0x20202020), 40);
         due("read", x.curves(), 2);
         alike("the highest first", all(x), "field 7; abcdef=1x1y1 6x0y0; gh=6x1y0 1x0y1");
-        // A byte of 128 and more, at each of the four places of a number.
+        // A byte of 128 and more (160 is a blank and 128), at each of the four places of a number.
         for (int k = 0; k < 4; k++) {
-            int number = 0x20202020 & ~(255 << 8 * k) | 0x80 + k << 8 * k;
+            int number = 0x20202020 | 0x80 << 8 * k;
             x.feed(0x20202020, 0x20202020, 0x20202020, 0x20202020, number);
             x.curves();
             due("place " + k, x.fault(1), 19 - k);
@@ -538,6 +542,17 @@ public final class TextEdgesTest extends Answers {
         tape(x, "curve a=x;");
         due("none", x.end(0), true);
         due("no text", x.curves(), 0);
+        // What stood behind the end does not count, whatever it would be.
+        String[] cut = {"field 31;", "field 3", "field", "curve ab=x;", "curve a", "curve a=", "curve a=x^", "curve a=x"};
+        int[] ends = {7, 6, 2, 7, 6, 8, 10, 8};
+        int[] places = {7, 6, 0, 7, 6, 8, 10, 8};
+        for (int k = 0; k < cut.length; k++) {
+            CurveMeets y = new CurveMeets();
+            tape(y, cut[k] + "2;");
+            due("cut off", y.end(ends[k]), true);
+            due("read", y.curves(), NONE);
+            due("at its end", y.fault(0) * 100 + y.fault(1), 100 + places[k]);
+        }
         tape(x, "curve a=x;");
         due("not undone by a longer end", x.end(5) && !x.end(10), true);
         due("read", x.curves(), NONE);
