@@ -18,7 +18,8 @@ public final class ActEdgesTest extends Answers {
         CurveMeets four = with("curve a=x^4+3*y^4+x^2*y^2;");
         due("x to x - 1, y to y + x", four.move(1, 0, -1, 1, 1, 0), true);
         // (x - 1)^4 + 3 (y + x)^4 + (x - 1)^2 (y + x)^2, modulo 7.
-        alike("all TERMS of four", all(four), "field 7; a=5x4y0 5x2y2 5x1y3 3x0y4 1x3y0 3x2y1 5x1y2 2x1y1 1x0y2 3x1y0 1x0y0");
+        alike("all TERMS of four", all(four),
+            "field 7; a=5x4y0 5x2y2 5x1y3 3x0y4 1x3y0 3x2y1 5x1y2 2x1y1 1x0y2 3x1y0 1x0y0");
     }
 
     private static void numbersOfMovesWrapAround() {
@@ -582,7 +583,8 @@ public final class ActEdgesTest extends Answers {
         sentence("Promise 34", "all that ACTS change is as it was ahead of it", ActEdgesTest::undoneWholly);
         sentence("Promise 34", "false, refused (4), when none can be.", ActEdgesTest::undoOfNone);
         sentence("Promise 34", "all that ACTS change", ActEdgesTest::refusedIsNoAct);
-        sentence("Promise 35", "How many were refused: 0 feed(), end(); 1 curves(); 2 move(); 3 make(), drop(); 4 undo().",
+        sentence("Promise 35", "How many were refused: 0 feed(), end(); 1 curves(); 2 move(); 3 make(), drop(); "
+            + "4 undo().",
             ActEdgesTest::refusals);
         sentence("Promise 35", "How many were refused", ActEdgesTest::questionsAreNotRefused);
         sentence("Promise 35", "NONE for others.", ActEdgesTest::statusOfOthers);

@@ -253,8 +253,8 @@ public final class CurveEdgesTest extends Answers {
                 due("TERM " + i + " " + j, x.term(0, i, j), want);
             }
         }
-        int[][] far = {{GREATEST, GREATEST}, {GREATEST, 1}, {1, GREATEST}, {LEAST, LEAST}, {LEAST, 0}, {GREATEST, LEAST},
-            {0, LEAST}, {GREATEST, -GREATEST}};
+        int[][] far = {{GREATEST, GREATEST}, {GREATEST, 1}, {1, GREATEST}, {LEAST, LEAST}, {LEAST, 0},
+            {GREATEST, LEAST}, {0, LEAST}, {GREATEST, -GREATEST}};
         for (int[] term : far) {
             due("TERM " + term[0] + " " + term[1], x.term(0, term[0], term[1]), NONE);
         }
@@ -362,7 +362,8 @@ public final class CurveEdgesTest extends Answers {
             CurveEdgesTest::termsInBounds);
         sentence("Promise 9", "NONE when there is none such.", CurveEdgesTest::degreesOfNone);
         sentence("Promise 10", "NONE when there is none such (either, as everywhere).", CurveEdgesTest::valuesOfNone);
-        sentence("Promise 11", "The k-th POINT ON a CURVE, by numbers (k NONE: how many); NONE when there is none such.",
+        sentence("Promise 11",
+            "The k-th POINT ON a CURVE, by numbers (k NONE: how many); NONE when there is none such.",
             CurveEdgesTest::pointsByNumber);
         sentence("Promise 12", "ORDER of a CURVE at a POINT; NONE when there is none such.",
             CurveEdgesTest::ordersOfNone);
@@ -376,7 +377,8 @@ public final class CurveEdgesTest extends Answers {
         sentence("Promise 16", "-2 without bound", CurveEdgesTest::bendsWithoutBound);
         sentence("Promise 16", "NONE when it has not ORDER 1 there, there is none such.",
             CurveEdgesTest::bendsOfOtherOrders);
-        sentence("Promise 17", "The k-th POINT of a CURVE with a BEND of 3 or more, or without bound (k NONE: how many)",
+        sentence("Promise 17",
+            "The k-th POINT of a CURVE with a BEND of 3 or more, or without bound (k NONE: how many)",
             CurveEdgesTest::flexes);
         sentence("Promise 18", "(it may be below 0)", CurveEdgesTest::genusBelowZero);
         sentence("Promise 18", "-100 when there is none such.", CurveEdgesTest::genusOfNone);

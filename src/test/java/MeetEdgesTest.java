@@ -40,7 +40,8 @@ public final class MeetEdgesTest extends Answers {
     }
 
     private static void firstTermHasOne() {
-        CurveMeets x = with("curve a=3*x*y+2*y^2+x+4;curve b=2*y^2+3*x;curve c=3*x+2*y;curve d=5*y^4+2*x^4+x;curve e=6*y;");
+        CurveMeets x = with("curve a=3*x*y+2*y^2+x+4;curve b=2*y^2+3*x;curve c=3*x+2*y;"
+            + "curve d=5*y^4+2*x^4+x;curve e=6*y;");
         // By 3: its inverse is 5.
         due("a, x*y", x.commonTerm(0, 0, 1, 1), 1);
         due("a, y^2", x.commonTerm(0, 0, 0, 2), 3);
@@ -469,8 +470,8 @@ public final class MeetEdgesTest extends Answers {
         sentence("II", "by how much all POLYNOMIALS in u, v below 17 (i and j together) are more",
             MeetEdgesTest::sizeBelowSeventeen);
         sentence("II", "PARTS of d (0 .. 24)", MeetEdgesTest::partsByDegree);
-        sentence("II", "NEAR: by how much those that are made by FORMS of DEGREE 8 times z to the 16 and by both CURVES "
-            + "are more than those made by both CURVES alone (of DEGREE 24).", MeetEdgesTest::near);
+        sentence("II", "NEAR: by how much those that are made by FORMS of DEGREE 8 times z to the 16 and by both "
+            + "CURVES are more than those made by both CURVES alone (of DEGREE 24).", MeetEdgesTest::near);
         sentence("II", "FAR: the product of both DEGREES less NEAR.", MeetEdgesTest::far);
     }
 
@@ -509,7 +510,8 @@ public final class MeetEdgesTest extends Answers {
         sentence("Promise 28", "(1; -2 if one is without bound)", MeetEdgesTest::knotWithoutBound);
         sentence("Promise 28", "NONE when there is no such POINT, or for others.", MeetEdgesTest::knotOfNone);
         sentence("Promise 29", "0 without any", MeetEdgesTest::mostWithoutAny);
-        sentence("Promise 29", "-2 if one is without bound), the first POINT of these", MeetEdgesTest::mostWithoutBound);
+        sentence("Promise 29", "-2 if one is without bound), the first POINT of these",
+            MeetEdgesTest::mostWithoutBound);
         sentence("Promise 29", "the first POINT of these (1; NONE without any)", MeetEdgesTest::firstOfTheGreatest);
         sentence("Promise 29", "NONE when there is none such, or for others.", MeetEdgesTest::mostOfNone);
     }

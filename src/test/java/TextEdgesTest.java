@@ -543,7 +543,8 @@ public final class TextEdgesTest extends Answers {
         due("none", x.end(0), true);
         due("no text", x.curves(), 0);
         // What stood behind the end does not count, whatever it would be.
-        String[] cut = {"field 31;", "field 3", "field", "curve ab=x;", "curve a", "curve a=", "curve a=x^", "curve a=x"};
+        String[] cut = {"field 31;", "field 3", "field", "curve ab=x;", "curve a", "curve a=", "curve a=x^",
+            "curve a=x"};
         int[] ends = {7, 6, 2, 7, 6, 8, 10, 8};
         int[] places = {7, 6, 0, 7, 6, 8, 10, 8};
         for (int k = 0; k < cut.length; k++) {
