@@ -38,6 +38,22 @@ public final class CurveEdgesTest extends Answers {
         due("near all TERMS count", x.value(0, 2 * 7 + 3), (4 + 18 + 6 + 1) % 7);
     }
 
+    private static void valuesAtTheEdges() {
+        for (int p : PRIMES) {
+            int less = p - 1;
+            CurveMeets x = with("field " + p + ";curve a=-x^4-x^2*y^2-y^4-x^3-y^3-1;"
+                + "curve b=" + less + "*x^3+" + less + "*y;");
+            due("at 0, 0", x.value(0, 0), less);
+            due("at the last that is near", x.value(0, p * p - 1), Math.floorMod(-2, p));
+            due("at 1 : 0 : 0", x.value(0, p * p), less);
+            due("at 1 : P less 1 : 0", x.value(0, p * p + less), Math.floorMod(-3, p));
+            due("at 0 : 1 : 0", x.value(0, p * p + p), less);
+            due("at the last that is near, b", x.value(1, p * p - 1), 2 % p);
+            due("at 1 : P less 1 : 0, b", x.value(1, p * p + less), less);
+            due("at 0 : 1 : 0, b", x.value(1, p * p + p), 0);
+        }
+    }
+
     private static void pointsOn() {
         CurveMeets x = with("field 3;curve a=y-x^2;curve b=x^2+1;");
         list("parabola", k -> x.point(0, k), 0, 4, 7, 12);
@@ -99,6 +115,50 @@ public final class CurveEdgesTest extends Answers {
         items("as often", k -> x.tangent(3, 0, k, 1), 2, 1, 1);
         due("TERMS above the lowest don't count", x.tangent(4, 0, NONE, 1), 3);
         due("less often than ORDER", x.tangent(5, 0, NONE, 1), 2);
+    }
+
+    private static void waysByDivision() {
+        // v (u^3 + v^3): modulo 7 the third powers of 3, 5 and 6 are 6; modulo 3 it is v (u + v)^3.
+        CurveMeets x = with("curve a=x^3*y+y^4;");
+        items("by four", k -> x.tangent(0, 0, k, 0), 0, 3, 5, 6);
+        items("each once", k -> x.tangent(0, 0, k, 1), 1, 1, 1, 1);
+        CurveMeets y = with("field 3;curve a=x^3*y+y^4;curve b=x^2*(x-y)+y^4;curve c=(y-2*x)^2*x-1;");
+        items("by two", k -> y.tangent(0, 0, k, 0), 0, 2);
+        items("once and three times", k -> y.tangent(0, 0, k, 1), 1, 3);
+        items("1 and P", k -> y.tangent(1, 0, k, 0), 1, 3);
+        items("P twice", k -> y.tangent(1, 0, k, 1), 1, 2);
+        // At 1 : 2 : 0 its LOCAL one is u u - v v v, at 0 : 1 : 0 it begins with u.
+        items("P alone, far", k -> y.tangent(2, 11, k, 0), 3);
+        items("twice, far", k -> y.tangent(2, 11, k, 1), 2);
+        items("P alone, at the last", k -> y.tangent(2, 12, k, 0), 3);
+        items("once, at the last", k -> y.tangent(2, 12, k, 1), 1);
+    }
+
+    private static void waysByNumber() {
+        for (int p : PRIMES) {
+            CurveMeets x = with("field " + p + ";curve a=x^2*y*(y-x)+y^4-y^3*x;");
+            // v u u (v - u) + v v v (v - u) = v (v - u) (u u + v v): the last is 0 where 1 + w w is.
+            int last = -1;
+            int together = 0;
+            int ways = x.tangent(0, 0, NONE, 0);
+            for (int k = 0; k < ways; k++) {
+                int way = x.tangent(0, 0, k, 0);
+                int often = (way == 0 ? 1 : 0) + (way == 1 ? 1 : 0);
+                often += (1 + way * way) % p == 0 ? (p == 2 ? 2 : 1) : 0;
+                due("the least first", way > last, true);
+                due("how often " + way, x.tangent(0, 0, k, 1), often);
+                last = way;
+                together += often;
+            }
+            due("all together", x.tangent(0, 0, NONE, 1), together);
+            due("as many as can be", together, p % 4 == 3 ? 2 : 4);
+            due("the first", x.tangent(0, 0, 0, 0), 0);
+            due("the second", x.tangent(0, 0, 1, 0), 1);
+            for (int k : new int[] {ways, ways + 1, p + 2, -2, GREATEST, LEAST}) {
+                due("no more", x.tangent(0, 0, k, 0), NONE);
+                due("no more, how often", x.tangent(0, 0, k, 1), NONE);
+            }
+        }
     }
 
     private static void waysTogether() {
@@ -183,6 +243,17 @@ public final class CurveEdgesTest extends Answers {
         for (int k = 0; k < 6; k++) {
             due("GENUS of " + k, x.genus(k), genus[k]);
         }
+    }
+
+    private static void genusByOrders() {
+        CurveMeets x = with("curve a=y-x^3;curve b=y-x^4;curve c=x*y*(x-y)*(x+y);curve d=x*(x-1)*(x-2)*(x-3);"
+            + "curve e=(x^2-1)*(y^2-1);curve f=y^2-x^4;");
+        due("ORDER 2, far", x.genus(0), 1 - 1);
+        due("ORDER 3, far", x.genus(1), 3 - 3);
+        due("ORDER 4", x.genus(2), 3 - 6);
+        due("ORDER 4, far", x.genus(3), 3 - 6);
+        due("ORDER 2, at four and at two far", x.genus(4), 3 - 4 - 2);
+        due("ORDER 2, and 2 at 0 : 1 : 0", x.genus(5), 3 - 1 - 1);
     }
 
     private static void genusBelowZero() {
@@ -340,6 +411,8 @@ public final class CurveEdgesTest extends Answers {
         sentence("II", "POINTS are numbered: x P and y for (x, y); P P and m for the one at infinity with 1 : m : 0; "
             + "P P and P for 0 : 1 : 0.", CurveEdgesTest::pointNumbers);
         sentence("II", "each TERM comes by z to the n less i less j: its FORM", CurveEdgesTest::formsAtInfinity);
+        sentence("II", "VALUE at a POINT: that of the FORM at x : y : 1, at 1 : m : 0, at 0 : 1 : 0.",
+            CurveEdgesTest::valuesAtTheEdges);
         sentence("II", "A POINT is ON it, if that is 0.", CurveEdgesTest::pointsOn);
         sentence("II", "at (x, y) the CURVE by x and u, y and v; at 1 : m : 0 the FORM by 1, m and u, v; at 0 : 1 : 0 "
             + "the FORM by u, 1, v.", CurveEdgesTest::localNearAndFar);
@@ -348,8 +421,12 @@ public final class CurveEdgesTest extends Answers {
             CurveEdgesTest::waysToTheLast);
         sentence("II", "as often as it is a root of the TERMS of LOCAL whose i and j together are ORDER",
             CurveEdgesTest::waysAsOften);
+        sentence("II", "(how often these can be divided by v less it times u; for P, by u)",
+            CurveEdgesTest::waysByDivision);
         sentence("II", "the least power of s in LOCAL", CurveEdgesTest::bends);
         sentence("II", "GENUS: (n less 1) times (n less 2) by 2", CurveEdgesTest::genusOf);
+        sentence("II", "less m times (m less 1) by 2 for each POINT ON it, m being its ORDER there",
+            CurveEdgesTest::genusByOrders);
     }
 
     private static void sentencesOfPromises() {
@@ -371,6 +448,8 @@ public final class CurveEdgesTest extends Answers {
             CurveEdgesTest::localInBounds);
         sentence("Promise 14", "The k-th POINT ON a CURVE with an ORDER of 2 or more (k NONE: how many)",
             CurveEdgesTest::singularOnes);
+        sentence("Promise 15", "The k-th WAY that is TANGENT to a CURVE at a POINT, the least first (what 0), how often "
+            + "it is (1)", CurveEdgesTest::waysByNumber);
         sentence("Promise 15", "k NONE: how many (what 0), all together as often (1).", CurveEdgesTest::waysTogether);
         sentence("Promise 15", "NONE when the POINT is not ON it, there is none such, or for others.",
             CurveEdgesTest::waysWithout);

@@ -32,6 +32,21 @@ public final class MeetEdgesTest extends Answers {
         due("2 the other way", x.common(3, 0), 2);
     }
 
+    private static void commonIsGreatest() {
+        CurveMeets x = with("curve a=x^2*y;curve b=x*y^2;curve c=3*(x+y)^2;curve d=2*(x+y)^3;curve e=(x+y)*x*y^2;"
+            + "curve f=y^2-x^3;");
+        due("x y", x.common(0, 1) * 10 + x.commonTerm(0, 1, 1, 1), 21);
+        due("no more of it", x.commonTerm(0, 1, 2, 0) + x.commonTerm(0, 1, 0, 2) + x.commonTerm(0, 1, 0, 0), 0);
+        due("a square and a third power", x.common(2, 3) * 10 + x.commonTerm(2, 3, 1, 1), 22);
+        due("one of two", x.common(2, 4) * 10 + x.commonTerm(2, 4, 0, 1), 11);
+        due("two of three", x.common(4, 1), 3);
+        due("none, though both are 0 at a POINT", x.common(5, 0), 0);
+        // Modulo 3 y^3 - x^3 is (y - x)^3, x^2 + y^2 can't be divided.
+        CurveMeets y = with("field 3;curve a=y^3-x^3;curve b=(y-x)^2;curve c=(x^2+y^2)*(x+1);curve d=(x^2+y^2)*(x+2);");
+        due("two of three, modulo 3", y.common(0, 1) * 10 + y.commonTerm(0, 1, 1, 1), 21);
+        due("one that can't be divided", y.common(2, 3) * 10 + y.commonTerm(2, 3, 0, 2), 21);
+    }
+
     private static void commonWithItself() {
         CurveMeets x = with("curve a=x;curve b=x^2*y^2;curve c=3*y^3+x;");
         due("a line", x.common(0, 0), 1);
@@ -144,6 +159,19 @@ public final class MeetEdgesTest extends Answers {
         due("twice as much", x.times(3, 1, 0), 4);
     }
 
+    private static void splitAgain() {
+        CurveMeets x = with("curve a=y^4;curve b=x+y;curve c=x^2*y+y^3;curve d=x^3;curve e=y^3*x;");
+        alike("four times", rules(x, 0, 1, 0), "11110");
+        due("by 1 each time", x.times(0, 1, 0), 4);
+        // v (u u + v v), u^3: SPLIT by 3; a CUT leaves - u v v; SWAP; two SPLITS by 2; - u cuts u u + v v to
+        // v v; SWAP; two SPLITS by 1.
+        alike("once, and later twice and twice", rules(x, 2, 3, 0), "1321132110");
+        due("all in all", x.times(2, 3, 0), 9);
+        // v^3 u and u + v: three SPLITS by 1, then u and u + v.
+        alike("three times", rules(x, 4, 1, 0), "1113210");
+        due("three and one", x.times(4, 1, 0), 4);
+    }
+
     private static void ruleSwap() {
         CurveMeets x = with("curve a=x;curve b=y;curve c=x^2+y;curve d=x+y;");
         alike("G has none", rules(x, 0, 1, 0), "210");
@@ -240,6 +268,19 @@ public final class MeetEdgesTest extends Answers {
         due("a CURVE by itself, not ON it", x.size(0, 0, 1), 0);
     }
 
+    private static void sizeOfMultiples() {
+        CurveMeets x = with("curve a=x*y;curve b=x^2;curve c=y^3;curve d=x*y^2;curve e=x^3*y;curve f=y^2;");
+        // Left are 1, u and all powers of v up to 16.
+        due("u v, u u", x.size(0, 1, 0), 1 + 1 + 16);
+        due("u v alone", x.size(0, 0, 0), 1 + 16 + 16);
+        // v v (v, u): what v v leaves, and v v itself.
+        due("v^3, u v v", x.size(2, 3, 0), 17 + 16 + 1);
+        due("u v v, u^3 v", x.size(3, 4, 0), 17 + 16 + 2);
+        due("u u, v^3", x.size(1, 2, 0), 6);
+        due("the other way", x.size(2, 1, 0), 6);
+        due("v v, v^3", x.size(5, 2, 0), 17 + 16);
+    }
+
     private static void sizeAsTimes() {
         for (int p : PRIMES) {
             CurveMeets x = with("field " + p + ";curve a=y^2-x^3;curve b=y-x^2;curve c=x^2*y-y+x^4;");
@@ -315,6 +356,16 @@ public final class MeetEdgesTest extends Answers {
         due("two quartics, 24", x.parts(2, 3, 24), 16);
         due("a quartic by itself, 4", x.parts(2, 2, 4), 14);
         due("a quartic by itself, 24", x.parts(2, 2, 24), 325 - 231);
+    }
+
+    private static void partsOfMultiples() {
+        CurveMeets x = with("curve a=x*y;curve b=x*(y-1);curve c=x^2*(y-1);curve d=y^3;");
+        for (int d = 0; d <= 24; d++) {
+            // A line shared leaves d + 1, one POINT more where y and y - z meet.
+            due("conics with a line, " + d, x.parts(0, 1, d), d == 0 ? 1 : d + 2);
+            due("one within the other, " + d, x.parts(1, 2, d), 2 * d + 1);
+            due("y shared, " + d, x.parts(0, 3, d), d == 0 ? 1 : d == 1 ? 3 : d + 3);
+        }
     }
 
     private static void partsOfNone() {
@@ -421,6 +472,15 @@ public final class MeetEdgesTest extends Answers {
         noSuchPoint("knot without CURVES", 7, q -> new CurveMeets().knot(q, 0));
     }
 
+    private static void mostAnywhere() {
+        CurveMeets x = with("curve a=y-x^4;curve b=y-x^4-1;curve c=y-x^4+y^4;curve d=(y-1)*y;curve e=x-1;");
+        due("far", x.most(0, 1, 0) * 100 + x.most(0, 1, 1), 1656);
+        due("near", x.most(0, 2, 0) * 100 + x.most(0, 2, 1), 1600);
+        due("not the first", x.most(0, 3, 0) * 100 + x.most(0, 3, 1), 400);
+        due("the other way", x.most(3, 0, 0) * 100 + x.most(3, 0, 1), 400);
+        due("three far", x.most(0, 4, 0) * 100 + x.most(0, 4, 1), 356);
+    }
+
     private static void mostWithoutAny() {
         CurveMeets x = with(PARABOLA);
         due("greatest", x.most(0, 3, 0), 0);
@@ -456,10 +516,13 @@ public final class MeetEdgesTest extends Answers {
     }
 
     private static void sentencesOnTerms() {
+        sentence("II", "the POLYNOMIAL of greatest DEGREE by which both can be divided",
+            MeetEdgesTest::commonIsGreatest);
         sentence("II", "of its TERMS that with the greatest i and j, of like ones with the greatest i, has 1",
             MeetEdgesTest::firstTermHasOne);
         sentence("II", "none (-2), if the FORM of their COMMON PART is 0 there", MeetEdgesTest::timesWithoutBound);
         sentence("II", "0 END: F or G has a TERM without u and v: 0 more, it is over.", MeetEdgesTest::ruleEnd);
+        sentence("II", "1 SPLIT: F has no TERM without v: F is divided by v", MeetEdgesTest::splitAgain);
         sentence("II", "TIMES are more by the least i of G's TERMS without v.", MeetEdgesTest::ruleSplit);
         sentence("II", "2 SWAP: G has no TERM without v, or F's greatest i of TERMS without v is above G's: G, F.",
             MeetEdgesTest::ruleSwap);
@@ -469,7 +532,11 @@ public final class MeetEdgesTest extends Answers {
             MeetEdgesTest::termsAboveSixteen);
         sentence("II", "by how much all POLYNOMIALS in u, v below 17 (i and j together) are more",
             MeetEdgesTest::sizeBelowSeventeen);
+        sentence("II", "than those among them that are made by LOCAL ones, each times any POLYNOMIAL, TERMS of 17 and "
+            + "more left out (as dimensions)", MeetEdgesTest::sizeOfMultiples);
         sentence("II", "PARTS of d (0 .. 24)", MeetEdgesTest::partsByDegree);
+        sentence("II", "by how much all FORMS of DEGREE d in x, y, z are more than those that are made by the FORMS of "
+            + "both CURVES, each times any FORM (as dimensions)", MeetEdgesTest::partsOfMultiples);
         sentence("II", "NEAR: by how much those that are made by FORMS of DEGREE 8 times z to the 16 and by both "
             + "CURVES are more than those made by both CURVES alone (of DEGREE 24).", MeetEdgesTest::near);
         sentence("II", "FAR: the product of both DEGREES less NEAR.", MeetEdgesTest::far);
@@ -509,6 +576,7 @@ public final class MeetEdgesTest extends Answers {
             + "of these together", MeetEdgesTest::knots);
         sentence("Promise 28", "(1; -2 if one is without bound)", MeetEdgesTest::knotWithoutBound);
         sentence("Promise 28", "NONE when there is no such POINT, or for others.", MeetEdgesTest::knotOfNone);
+        sentence("Promise 29", "The greatest TIMES of two CURVES at any POINT", MeetEdgesTest::mostAnywhere);
         sentence("Promise 29", "0 without any", MeetEdgesTest::mostWithoutAny);
         sentence("Promise 29", "-2 if one is without bound), the first POINT of these",
             MeetEdgesTest::mostWithoutBound);

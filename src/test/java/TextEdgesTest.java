@@ -362,6 +362,42 @@ public final class TextEdgesTest extends Answers {
         faulty("curve a=x;curve a=0;", 3, 16);
     }
 
+    /** Behind a text each of all bytes: those that go on need more, those left out are told by other tests. */
+    private static void goesOnWith(String text, String onwards, String leftOut) {
+        for (int sign = 0; sign < 256; sign++) {
+            if (leftOut.indexOf(sign) < 0) {
+                int place = text.length() + (onwards.indexOf(sign) >= 0 ? 1 : 0);
+                faulty(text + (char) sign, 1, place);
+            }
+        }
+    }
+
+    private static void firstByteThatCannotBe() {
+        String digits = "0123456789";
+        String letters = "abcdefghijklmnopqrstuvwxyz";
+        goesOnWith("", "", " \n");
+        goesOnWith("field", " \n", letters);
+        goesOnWith("field ", "2357 \n", "014689");
+        goesOnWith("field 3", "1 \n", "023456789;");
+        goesOnWith("field 3;", "", " \n");
+        goesOnWith("curve", " \n", letters);
+        goesOnWith("curve ", letters.replaceAll("[xy]", "") + " \n", "");
+        goesOnWith("curve a", letters + "= \n", "");
+        goesOnWith("curve abcdef", "= \n", letters);
+        goesOnWith("curve a=", digits + "xy(- \n", "");
+        goesOnWith("curve a=-", digits + "xy( \n", "");
+        goesOnWith("curve a=2", digits + "^*+- \n", ";");
+        goesOnWith("curve a=x", "^*+- \n", ";" + letters);
+        goesOnWith("curve a=x^", "01234 \n", "56789");
+        goesOnWith("curve a=x^2", "*+- \n", ";" + digits);
+        goesOnWith("curve a=x*", digits + "xy( \n", "");
+        goesOnWith("curve a=x+", digits + "xy( \n", "");
+        goesOnWith("curve a=(", digits + "xy(- \n", "");
+        goesOnWith("curve a=(x", "^*+-) \n", letters);
+        goesOnWith("curve a=(x)", "^*+- \n", ";");
+        goesOnWith("curve a=x;", "", " \n");
+    }
+
     private static void wholeWordsAndNumbers() {
         faulty("fiel", 1, 0);
         faulty("fieldd 7;", 1, 0);
@@ -680,6 +716,7 @@ public final class TextEdgesTest extends Answers {
     private static void sentencesOnFaults() {
         sentence("I", "of several the one whose place is least", TextEdgesTest::leastPlace);
         sentence("I", "of one place the one that stands first here", TextEdgesTest::firstKindAtOnePlace);
+        sentence("I", "1 the first byte with which no such text goes on", TextEdgesTest::firstByteThatCannotBe);
         sentence("I", "words and numbers whole, at their first byte", TextEdgesTest::wholeWordsAndNumbers);
         sentence("I", "where a NAME is asked one that can't be, at its first byte",
             TextEdgesTest::namesThatCannotBe);
