@@ -41,6 +41,9 @@ public final class MeetEdgesTest extends Answers {
         due("one of two", x.common(2, 4) * 10 + x.commonTerm(2, 4, 0, 1), 11);
         due("two of three", x.common(4, 1), 3);
         due("none, though both are 0 at a POINT", x.common(5, 0), 0);
+        CurveMeets four = with("curve a=y^4;curve b=y^4+1;curve c=x^4;curve d=x^4+y;");
+        due("none, by y^8", four.common(0, 1) * 10 + four.common(1, 0), 0);
+        due("none, by x^8", four.common(2, 3) * 10 + four.common(3, 2), 0);
         // Modulo 3 y^3 - x^3 is (y - x)^3, x^2 + y^2 can't be divided.
         CurveMeets y = with("field 3;curve a=y^3-x^3;curve b=(y-x)^2;curve c=(x^2+y^2)*(x+1);curve d=(x^2+y^2)*(x+2);");
         due("two of three, modulo 3", y.common(0, 1) * 10 + y.commonTerm(0, 1, 1, 1), 21);
@@ -389,7 +392,12 @@ public final class MeetEdgesTest extends Answers {
         "curve a=x^4;curve b=y^4;",
         "curve a=y-x^2;curve b=x-1;",
         // No x by itself is 3 modulo 7: they meet near, but at no POINT.
-        "curve a=x^2-3;curve b=y;"};
+        "curve a=x^2-3;curve b=y;",
+        // At 1 : 0 : 0 u is v^4, and u^4 goes: z is v there, so that z to the 15 stays and z to the 16 goes.
+        "curve a=x^3*y-1;curve b=y^4;",
+        "curve a=x*y^3-1;curve b=x*y^3+x^4-1;",
+        // The same at 1 : 1 : 0, where no power of x or y goes: there less than z to the 16 would be seen.
+        "curve a=(y-x)^4;curve b=x^3*(y-x)-1;"};
 
     /** One total of each pair, either way. */
     private static void totals(int what, int... want) {
@@ -401,20 +409,20 @@ public final class MeetEdgesTest extends Answers {
     }
 
     private static void productsOfDegrees() {
-        totals(0, 1, 1, 1, 4, 16, 16, 16, 2, 2);
+        totals(0, 1, 1, 1, 4, 16, 16, 16, 2, 2, 16, 16, 16);
     }
 
     private static void near() {
-        totals(1, 1, 0, 0, 2, 0, 16, 16, 1, 2);
+        totals(1, 1, 0, 0, 2, 0, 16, 16, 1, 2, 0, 0, 0);
     }
 
     private static void far() {
-        totals(2, 0, 1, 1, 2, 16, 0, 0, 1, 0);
+        totals(2, 0, 1, 1, 2, 16, 0, 0, 1, 0, 16, 16, 16);
     }
 
     private static void timesNearAndFar() {
-        totals(3, 1, 0, 0, 2, 0, 4, 16, 1, 0);
-        totals(4, 0, 1, 1, 2, 16, 0, 0, 1, 0);
+        totals(3, 1, 0, 0, 2, 0, 4, 16, 1, 0, 0, 0, 0);
+        totals(4, 0, 1, 1, 2, 16, 0, 0, 1, 0, 16, 16, 16);
     }
 
     private static void totalOfShared() {
